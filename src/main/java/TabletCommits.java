@@ -567,7 +567,7 @@ public final class TabletCommits {
         }
 
         Version versionAt(int k) {
-            if (k < 0 || k >= kept) {
+            if (k < 0) {
                 return null;
             }
             Version v = latest;

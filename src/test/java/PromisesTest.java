@@ -915,6 +915,39 @@ final class PromisesTest {
                 get 1 0 = 3
                 get 1 1 ! NoSuchElementException
                 """);
+        Script.run("14 sweep forgets a VOID that is the latest", 20, writes + """
+                begin 0 = 8
+                set 0 0 9
+                step 0 = 1
+                kill 0 = 1
+                sweep 8 = 3                          // a lock with the start 8 is not below 8
+                sweep 9 = -1
+                clear 0 = 2
+                record 0 0 0 = 8
+                sweep 9 = 3
+                record 0 0 0 = 7
+                record 0 0 3 = 3
+                record 0 1 0 = -1
+                """);
+        Script.run("14 a sweep forgets where it is in force alone", 20, """
+                begin 0 = 1
+                erase 0 3
+                erase 0 4
+                erase 0 8
+                step 0 = 1
+                step 0 = 1
+                step 0 = 1
+                step 0 = 2
+                step 0 = 3
+                step 0 = 5
+                step 0 = 6
+                fail 1 1 false = 1
+                sweep 3 = 1
+                recover 1 = 1
+                record 3 0 0 = -1
+                record 4 0 0 = 2
+                record 8 0 0 = 2
+                """);
     }
 
     private static void sweepFails() {
