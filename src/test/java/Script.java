@@ -1,25 +1,47 @@
 import java.lang.reflect.InvocationTargetException;
 import java.lang.reflect.Method;
+import java.lang.reflect.Modifier;
+import java.util.ArrayList;
 import java.util.Arrays;
+import java.util.HashMap;
+import java.util.HashSet;
+import java.util.List;
+import java.util.Map;
+import java.util.Set;
 
 /**
  * Runs written rows of calls on a new object. A row is a call and what is due:
  * "get 0 5 = 6", "get 0 9 ! NoSuchElementException", or "set 0 5 6" for what must just not throw.
+ * A row that begins with ~ is a call that must change nothing as well, which Twins finds out.
  */
 final class Script {
+    private static final int MOST_CALLS = 512;
+
+    private static final Map<String, Method> METHODS = new HashMap<>();
+    private static final Set<String> SENTENCES = new HashSet<>();
     private static int wrong = 0;
     private static int rows = 0;
 
     private Script() {
     }
 
+    /** A test of one sentence: its name is the promise (or the part of the document) and the sentence's words. */
+    static void sentence(String promise, String words, int life, String text) {
+        SENTENCES.add(promise + words);
+        run(promise + ", \"" + words + "\"", life, text);
+    }
+
     static void run(String name, int life, String text) {
         TabletCommits object = new TabletCommits(life);
+        List<String[]> played = new ArrayList<>();
         for (String line : text.split("\n")) {
             String row = line.replaceAll("//.*", "").trim();
             if (!row.isEmpty()) {
-                runRow(name, object, row);
+                runRow(name, life, object, played, row);
             }
+        }
+        if (played.size() > MOST_CALLS) {
+            throw new IllegalArgumentException("more calls than an object is used for: " + name);
         }
     }
 
@@ -53,31 +75,41 @@ final class Script {
     }
 
     static void end() {
-        System.out.println(wrong == 0 ? rows + " answers are as due" : wrong + " answers are not as due");
+        String of = SENTENCES.isEmpty() ? "" : ", of " + SENTENCES.size() + " sentences";
+        System.out.println(wrong == 0 ? rows + " answers are as due" + of : wrong + " answers are not as due" + of);
         if (wrong != 0) {
             System.exit(1);
         }
     }
 
-    private static void runRow(String name, TabletCommits object, String row) {
-        String[] words = row.split(" +");
+    private static void runRow(String name, int life, TabletCommits object, List<String[]> played, String row) {
+        boolean changesNothing = row.startsWith("~");
+        String[] words = row.replaceFirst("^~ *", "").split(" +");
         int mark = Math.max(Arrays.asList(words).indexOf("="), Arrays.asList(words).indexOf("!"));
         String[] call = mark < 0 ? words : Arrays.copyOf(words, mark);
         if (call.length != methodNamed(call[0]).getParameterCount() + 1) {
             throw new IllegalArgumentException("a row with the wrong number of arguments: " + row);
         }
+        String place = name + ": call " + (played.size() + 1) + ", " + String.join(" ", call);
+        if (changesNothing) {
+            due("what is changed by " + place, Twins.difference(life, played, call), "nothing");
+        }
         String got = call(object, call);
         if (mark < 0) {
-            due(name + ": " + row, got.startsWith("!") ? got : "no exception", "no exception");
+            due(place, got.startsWith("!") ? got : "no exception", "no exception");
         } else {
-            String want = words[mark].equals("=") ? words[mark + 1] : "! " + words[mark + 1];
-            due(name + ": " + String.join(" ", call), got, want);
+            due(place, got, words[mark].equals("=") ? words[mark + 1] : "! " + words[mark + 1]);
         }
+        played.add(call);
     }
 
     private static Method methodNamed(String name) {
+        return METHODS.computeIfAbsent(name, Script::findMethod);
+    }
+
+    private static Method findMethod(String name) {
         for (Method method : TabletCommits.class.getDeclaredMethods()) {
-            if (method.getName().equals(name) && java.lang.reflect.Modifier.isPublic(method.getModifiers())) {
+            if (method.getName().equals(name) && Modifier.isPublic(method.getModifiers())) {
                 return method;
             }
         }
