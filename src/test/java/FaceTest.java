@@ -24,6 +24,13 @@ final class FaceTest {
         Script.due("the fields", visibleFields(), Arrays.asList("public static final int TabletCommits.NONE"));
         Script.due("NONE", TabletCommits.NONE, -1);
         Script.due("final", Modifier.isFinal(TabletCommits.class.getModifiers()), true);
+        Script.due("what the methods may throw", namedExceptions(), new TreeSet<>(Arrays.asList(
+                "begin [IllegalArgumentException, IllegalStateException]",
+                "clear [IllegalArgumentException, IllegalStateException]",
+                "erase [IllegalArgumentException, IllegalStateException]",
+                "get [IllegalArgumentException, IllegalStateException, NoSuchElementException, UnsupportedOperationException]",
+                "set [IllegalArgumentException, IllegalStateException]",
+                "step [IllegalArgumentException, NoSuchElementException, IllegalStateException]")));
         Script.due("a private method with a public one's name", sharedNames(), new TreeSet<String>());
         Script.end();
     }
@@ -34,6 +41,20 @@ final class FaceTest {
             if (isVisible(method)) {
                 String types = Arrays.toString(method.getParameterTypes());
                 found.add(method.getReturnType() + " " + method.getName() + "(" + types.substring(1, types.length() - 1) + ")");
+            }
+        }
+        return found;
+    }
+
+    private static TreeSet<String> namedExceptions() {
+        TreeSet<String> found = new TreeSet<>();
+        for (Method method : TabletCommits.class.getDeclaredMethods()) {
+            List<String> names = new ArrayList<>();
+            for (Class<?> type : method.getExceptionTypes()) {
+                names.add(type.getSimpleName());
+            }
+            if (!names.isEmpty()) {
+                found.add(method.getName() + " " + names);
             }
         }
         return found;
